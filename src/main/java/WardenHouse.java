@@ -99,6 +99,7 @@ public final class WardenHouse {
     private final Reader reader;
     private final Survey survey;
     private final Machine machine;
+    private final Right heard;
     private final Right asked;
     private boolean planned;
     private boolean asking;
@@ -111,6 +112,7 @@ public final class WardenHouse {
         reader = new Reader(words, plan, policy);
         survey = new Survey(plan);
         machine = new Machine(plan, policy);
+        heard = new Right();
         asked = new Right();
     }
 
@@ -148,7 +150,11 @@ public final class WardenHouse {
         machine.forget();
         survey.forget();
         words.begin(tape, length, PLACE_STEPS);
-        reader.readAll();
+        reader.readGrants();
+        for (int m = 0; m <= MAX_MODULES && reader.hasModule(); m++) {
+            reader.readModule();
+        }
+        plan.settleGroups();
         survey.findNeeds();
         plan.writeCode();
         planned = true;
@@ -204,16 +210,17 @@ public final class WardenHouse {
         if (words.kind != Words.NAME) {
             return false;
         }
-        long kind = words.name;
+        long kind = words.value;
         words.advance();
-        if (words.kind != Words.PATTERN || words.pattern.tail != Right.NO_TAIL) {
+        if (words.kind != Words.PATTERN || words.hasTail()) {
             return false;
         }
+        words.copyPattern(heard);
         words.advance();
         if (words.kind != Words.END) {
             return false;
         }
-        asked.take(words.pattern);
+        asked.take(heard);
         asked.kind = kind;
         asking = true;
         survey.forget();
@@ -249,7 +256,8 @@ public final class WardenHouse {
         if (unit.sort != METHOD || unit.parameters != 0) {
             throw new IllegalArgumentException("the unit is no method without parameters");
         }
-        return machine.work(unit, seed, steps, rewritten);
+        machine.prepare(unit, seed, steps, rewritten);
+        return machine.goOn();
     }
 
     public int result(int what) {
@@ -295,7 +303,7 @@ public final class WardenHouse {
         }
 
         int at(int i) {
-            return (int) get(i);
+            return i >= 0 && i < size ? (int) cells[i] : 0;
         }
 
         void set(int i, long cell) {
@@ -343,22 +351,17 @@ public final class WardenHouse {
             steps = new long[ASKED_STEPS];
         }
 
-        void clear() {
-            count = 0;
-            tail = NO_TAIL;
-        }
-
         void take(Right other) {
-            clear();
             kind = other.kind;
-            for (int i = 0; i < other.count; i++) {
-                addStep(other.steps[i]);
-            }
             tail = other.tail;
+            count = other.count;
+            for (int i = 0; i < ASKED_STEPS; i++) {
+                steps[i] = other.steps[i];
+            }
         }
 
         void addStep(long step) {
-            if (count < ASKED_STEPS) {
+            if (count >= 0 && count < ASKED_STEPS) {
                 steps[count] = step;
                 count++;
             }
@@ -368,7 +371,7 @@ public final class WardenHouse {
             long step = 0L;
             for (int power = 100; power > 0; power /= 10) {
                 if (number >= power || power == 1) {
-                    step = step * Words.CELL + Words.cellOf('0' + number / power % 10);
+                    step = Words.codeWith(step, '0' + number / power % 10);
                 }
             }
             addStep(step);
@@ -377,14 +380,14 @@ public final class WardenHouse {
         boolean covers(Right place) {
             int more = place.count - count;
             boolean fits = tail == NO_TAIL ? more == 0 : tail == STAR_TAIL ? more == 1 : more >= 1;
-            for (int i = 0; fits && i < count; i++) {
+            for (int i = 0; fits && i < count && i < ASKED_STEPS; i++) {
                 fits = steps[i] == place.steps[i];
             }
             return fits;
         }
     }
 
-    /** The WORDS of a text, one at a time. */
+    /** The WORDS of a text: all are found first, then looked at one at a time. */
     private static final class Words {
         static final int END = 0;
         static final int BAD = 1;
@@ -418,30 +421,33 @@ public final class WardenHouse {
         static final int WAIT = 231;
         static final int FAIL = 232;
 
-        static final long CELL = 64L;
-
         // As they are numbered from GRANT on, each with a blank behind it.
         private static final String KEYWORDS =
             "grant module field let in if then else try catch priv under fun new none self ctx check able out spawn wait fail ";
         private static final int KEYWORD_COUNT = 23;
+        private static final String SIGNS = "{}()[],;:=.+-*<";
         private static final int NAME_BYTES = 8;
         private static final int STEP_BYTES = 6;
+        private static final long MAX_NUMBER = 2147483647L;
+        private static final int WORD_CELLS = 3;
 
         private final long[] keywords;
+        private final Row found;
+        private final Row patterns;
         private byte[] text;
         private int length;
         private int mostSteps;
         private int place;
+        private int next;
         int kind;
         int at;
-        int number;
-        long name;
-        final Right pattern;
+        long value;
 
         Words() {
             keywords = new long[KEYWORD_COUNT];
+            found = new Row(WORD_CELLS * 64);
+            patterns = new Row(64);
             text = new byte[1];
-            pattern = new Right();
             int count = 0;
             long code = 0L;
             for (int i = 0; i < KEYWORDS.length() && count < KEYWORD_COUNT; i++) {
@@ -450,13 +456,14 @@ public final class WardenHouse {
                     count++;
                     code = 0L;
                 } else {
-                    code = code * CELL + cellOf(KEYWORDS.charAt(i));
+                    code = codeWith(code, KEYWORDS.charAt(i));
                 }
             }
         }
 
-        static int cellOf(int c) {
-            return isLetter(c) ? c - 'a' + 1 : c - '0' + 27;
+        // Names and STEPS are kept as numbers, six bits a letter or digit, none of them 0.
+        static long codeWith(long code, int c) {
+            return code << 6 | (c >= 'a' ? c - 'a' + 1 : c - '0' + 27);
         }
 
         private static boolean isLetter(int c) {
@@ -472,7 +479,45 @@ public final class WardenHouse {
             length = n;
             mostSteps = steps;
             place = 0;
+            next = 0;
+            found.cut(0);
+            patterns.cut(0);
+            boolean more = true;
+            for (int i = 0; more && i <= n; i++) {
+                more = findWord();
+            }
             advance();
+        }
+
+        void advance() {
+            kind = found.at(next * WORD_CELLS);
+            at = found.at(next * WORD_CELLS + 1);
+            value = found.get(next * WORD_CELLS + 2);
+            next++;
+        }
+
+        boolean hasTail() {
+            return kind == PATTERN && patterns.at((int) value + 1) != Right.NO_TAIL;
+        }
+
+        void copyPattern(Right target) {
+            int from = (int) value;
+            target.count = 0;
+            target.tail = patterns.at(from + 1);
+            for (int i = 0; i < patterns.at(from); i++) {
+                target.addStep(patterns.get(from + 2 + i));
+            }
+        }
+
+        boolean beginsPrefix() {
+            if (kind == NAME || kind == NUMBER || kind == '{' || kind == '(') {
+                return true;
+            }
+            return kind >= PRIV_WORD && kind <= FAIL;
+        }
+
+        boolean beginsExpression() {
+            return kind == LET || kind == IF || kind == TRY || beginsPrefix();
         }
 
         // NONE behind the end, so that what stands there is like no byte.
@@ -481,24 +526,34 @@ public final class WardenHouse {
         }
 
         private boolean stepCharAt(int i) {
-            return isLetter(byteAt(i)) || isDigit(byteAt(i));
+            int c = byteAt(i);
+            return isLetter(c) || isDigit(c);
         }
 
-        void advance() {
+        private void addWord(int itsKind, int itsPlace, long itsValue) {
+            found.add(itsKind);
+            found.add(itsPlace);
+            found.add(itsValue);
+        }
+
+        // False behind the last one that matters: nothing is read behind what is no word.
+        private boolean findWord() {
             skipBlanks();
-            at = place;
+            int from = place;
             int c = byteAt(place);
             if (c == NONE) {
-                kind = END;
+                addWord(END, from, 0L);
             } else if (isLetter(c)) {
-                readName();
+                findName();
             } else if (isDigit(c)) {
-                readNumber();
+                findNumber();
             } else if (c == '/') {
-                readPattern();
+                findPattern();
             } else {
-                readSign(c);
+                findSign(c);
             }
+            int last = found.at(found.size - WORD_CELLS);
+            return last != END && last != BAD;
         }
 
         private void skipBlanks() {
@@ -513,92 +568,76 @@ public final class WardenHouse {
             }
         }
 
-        private void readName() {
-            int count = 0;
-            name = 0L;
+        private void findName() {
+            int from = place;
+            long code = 0L;
             while (place < length && stepCharAt(place)) {
-                name = name * CELL + cellOf(byteAt(place));
-                count++;
+                code = codeWith(code, byteAt(place));
                 place++;
             }
-            kind = count > NAME_BYTES ? BAD : kindOfName();
-        }
-
-        private int kindOfName() {
+            int itsKind = NAME;
             for (int i = 0; i < KEYWORD_COUNT; i++) {
-                if (keywords[i] == name) {
-                    return GRANT + i;
-                }
+                itsKind = keywords[i] == code ? GRANT + i : itsKind;
             }
-            return NAME;
+            addWord(place - from > NAME_BYTES ? BAD : itsKind, from, code);
         }
 
-        private void readNumber() {
-            long value = 0L;
+        private void findNumber() {
+            int from = place;
+            long number = 0L;
             while (place < length && isDigit(byteAt(place))) {
-                if (value <= Integer.MAX_VALUE) {
-                    value = value * 10L + (byteAt(place) - '0');
+                if (number <= MAX_NUMBER) {
+                    number = number * 10L + (byteAt(place) - '0');
                 }
                 place++;
             }
-            kind = value > Integer.MAX_VALUE ? BAD : NUMBER;
-            number = (int) value;
+            addWord(number > MAX_NUMBER ? BAD : NUMBER, from, number);
         }
 
-        private void readPattern() {
-            boolean good = true;
+        // A pattern is kept as how many STEPS it has, its tail, and the STEPS.
+        private void findPattern() {
+            int from = place;
+            int kept = patterns.size;
             int count = 0;
-            pattern.clear();
+            boolean good = true;
+            patterns.add(0L);
+            patterns.add(Right.NO_TAIL);
             while (place < length && byteAt(place) == '/' && stepCharAt(place + 1)) {
                 count++;
-                good = readStep() && good;
+                good = findStep() && good;
             }
-            int next = byteAt(place + 1);
-            if (byteAt(place) == '/' && (next == '*' || next == '-')) {
-                pattern.tail = next == '*' ? Right.STAR_TAIL : Right.DASH_TAIL;
+            patterns.set(kept, count);
+            int behind = byteAt(place + 1);
+            if (byteAt(place) == '/' && (behind == '*' || behind == '-')) {
+                patterns.set(kept + 1, behind == '*' ? Right.STAR_TAIL : Right.DASH_TAIL);
                 place += 2;
             } else if (count == 0) {
                 good = false;
             }
-            kind = good && count <= mostSteps ? PATTERN : BAD;
+            addWord(good && count <= mostSteps ? PATTERN : BAD, from, kept);
         }
 
-        private boolean readStep() {
+        private boolean findStep() {
             int from = place + 1;
-            long step = 0L;
+            long code = 0L;
             place = from;
             while (place < length && stepCharAt(place)) {
-                step = step * CELL + cellOf(byteAt(place));
+                code = codeWith(code, byteAt(place));
                 place++;
             }
-            pattern.addStep(step);
+            patterns.add(code);
             return place - from <= STEP_BYTES;
         }
 
-        private void readSign(int c) {
-            kind = c;
+        private void findSign(int c) {
+            int from = place;
+            int itsKind = c < 127 && SIGNS.indexOf((char) c) >= 0 ? c : BAD;
             place++;
             if (byteAt(place) == '=' && (c == ':' || c == '=')) {
-                kind = c == ':' ? ASSIGN : SAME;
+                itsKind = c == ':' ? ASSIGN : SAME;
                 place++;
-            } else if (!isSign(c)) {
-                kind = BAD;
             }
-        }
-
-        private static boolean isSign(int c) {
-            return c < 127 && "{}()[],;:=.+-*<".indexOf((char) c) >= 0;
-        }
-
-        boolean beginsPrefix() {
-            if (kind == NAME || kind == NUMBER || kind == '{' || kind == '(') {
-                return true;
-            }
-            return kind >= PRIV_WORD && kind <= FAIL;
-        }
-
-        boolean beginsExpression() {
-            return kind == LET || kind == IF || kind == TRY || beginsPrefix();
+            addWord(itsKind, from, 0L);
         }
     }
 
@@ -616,7 +655,7 @@ public final class WardenHouse {
         private final Right[] askings;
         private final boolean[] askingIndexed;
         private final int[] askingHolders;
-        private final Right goal;
+        final Right goal;
         int grantCount;
         int limitCount;
         int domainCount;
@@ -665,26 +704,25 @@ public final class WardenHouse {
             }
         }
 
-        void addGrantRight(long kind, Right pattern) {
+        void addGrantRight(Right right) {
             int g = grantCount - 1;
             if (g >= 0 && grantSizes[g] < MAX_RIGHTS) {
-                setRight(g * MAX_RIGHTS + grantSizes[g], kind, pattern);
+                setRight(g * MAX_RIGHTS + grantSizes[g], right);
                 grantSizes[g]++;
             }
         }
 
-        void addLimitRight(long kind, Right pattern) {
+        void addLimitRight(Right right) {
             int l = limitCount - 1;
             if (l >= 0 && limitSizes[l] < MAX_RIGHTS) {
-                setRight(LIMIT_BASE + l * MAX_RIGHTS + limitSizes[l], kind, pattern);
+                setRight(LIMIT_BASE + l * MAX_RIGHTS + limitSizes[l], right);
                 limitSizes[l]++;
             }
         }
 
-        private void setRight(int i, long kind, Right pattern) {
+        private void setRight(int i, Right right) {
             if (i >= 0 && i < RIGHT_ROOM) {
-                rights[i].take(pattern);
-                rights[i].kind = kind;
+                rights[i].take(right);
             }
         }
 
@@ -695,11 +733,9 @@ public final class WardenHouse {
             }
         }
 
-        void setAsking(int a, long kind, Right place) {
+        void setAsking(int a, Right right) {
             if (a >= 0 && a < askingCount) {
-                askings[a].take(place);
-                askings[a].kind = kind;
-                askingHolders[a] = 0;
+                askings[a].take(right);
             }
         }
 
@@ -769,16 +805,16 @@ public final class WardenHouse {
             }
         }
 
-        int holdersOf(int a, int index) {
-            if (a < 0 || a >= askingCount) {
-                return 0;
+        int holdersOf(int a) {
+            return a >= 0 && a < askingCount ? askingHolders[a] : 0;
+        }
+
+        // The goal is what an ASKING with [ E ] asks for.
+        void aim(int a, int index) {
+            if (a >= 0 && a < askingCount) {
+                goal.take(askings[a]);
+                goal.addDigits(index);
             }
-            if (!askingIndexed[a]) {
-                return askingHolders[a];
-            }
-            goal.take(askings[a]);
-            goal.addDigits(index);
-            return holders(goal);
         }
     }
 
@@ -821,14 +857,13 @@ public final class WardenHouse {
             where = place;
             name = 0L;
             parameters = 0;
-            parent = itsNumber;
             limit = NONE;
             group = itsNumber;
             own = itsSort == METHOD ? 1 : 0;
             captured = 0;
             needs = false;
             labels = 0;
-            script.cut(0);
+            script.size = 0;
         }
 
         // A key names a variable by the UNIT that it is of, as its LOCAL is not known till all is read.
@@ -852,7 +887,11 @@ public final class WardenHouse {
         }
 
         void capture(int key) {
-            if (captureIndex(key) == NONE && captured < MAX_CAPTURED) {
+            boolean known = false;
+            for (int i = 0; i < captured; i++) {
+                known = known || captures[i] == key;
+            }
+            if (!known && captured < MAX_CAPTURED) {
                 captures[captured] = key;
                 captured++;
             }
@@ -1106,7 +1145,8 @@ public final class WardenHouse {
         }
 
         int ownMethod(int m, long name, int parameters) {
-            for (int i = 0; i < methodCount(m); i++) {
+            int count = m >= 0 && m < moduleCount ? methodCounts[m] : 0;
+            for (int i = 0; i < count; i++) {
                 int u = methods[m * MAX_METHODS + i];
                 if (unitAt(u).name == name && unitAt(u).parameters == parameters) {
                     return u;
@@ -1237,6 +1277,7 @@ public final class WardenHouse {
         private final Words words;
         private final Plan plan;
         private final Policy policy;
+        private final Right pattern;
         private final long[] scopeNames;
         private final int[] scopeKeys;
         private int scopeCount;
@@ -1251,6 +1292,7 @@ public final class WardenHouse {
             words = itsWords;
             plan = itsPlan;
             policy = itsPolicy;
+            pattern = new Right();
             scopeNames = new long[MAX_VARIABLES];
             scopeKeys = new int[MAX_VARIABLES];
             method = itsPlan.unitAt(0);
@@ -1258,15 +1300,23 @@ public final class WardenHouse {
             faultPlace = NONE;
         }
 
-        void readAll() {
+        void readGrants() {
             plan.clear();
             parts = 0;
             scopeCount = 0;
             faultKind = 0;
             faultPlace = NONE;
-            readGrants();
-            readModules();
-            plan.settleGroups();
+            for (int g = 0; g <= MAX_GRANTS && words.kind == Words.GRANT; g++) {
+                room(g < MAX_GRANTS);
+                readGrant();
+            }
+        }
+
+        // Behind the GRANTs, and behind each module.
+        boolean hasModule() {
+            boolean more = words.kind == Words.MODULE;
+            need(more || words.kind == Words.END && plan.moduleCount > 0);
+            return more;
         }
 
         private void refuse(int kind, int place) {
@@ -1293,66 +1343,56 @@ public final class WardenHouse {
         }
 
         private void needName() {
-            need(words.kind == Words.NAME);
+            if (words.kind != Words.NAME) {
+                refuse(FAULT_WORD, words.at);
+            }
         }
 
-        private void needPlace() {
+        private void takePattern(boolean place) {
             need(words.kind == Words.PATTERN);
-            if (words.pattern.tail != Right.NO_TAIL) {
+            if (place && words.hasTail()) {
                 refuse(FAULT_TAIL, words.at);
             }
+            words.copyPattern(pattern);
+            words.advance();
         }
 
-        private void readGrants() {
-            for (int g = 0; g <= MAX_GRANTS && words.kind == Words.GRANT; g++) {
-                room(g < MAX_GRANTS);
-                words.advance();
-                need(words.kind == Words.PATTERN);
-                policy.addGrant(words.pattern);
-                words.advance();
-                pass('{');
-                for (int i = 0; i <= MAX_RIGHTS && words.kind == Words.NAME; i++) {
-                    readRight(i, false);
-                    pass(';');
-                }
-                pass('}');
+        private void readGrant() {
+            words.advance();
+            takePattern(false);
+            policy.addGrant(pattern);
+            pass('{');
+            for (int i = 0; i <= MAX_RIGHTS && words.kind == Words.NAME; i++) {
+                readRight(i, false);
+                pass(';');
             }
+            pass('}');
         }
 
         private void readRight(int before, boolean limit) {
             needName();
             room(before < MAX_RIGHTS);
-            long kind = words.name;
+            pattern.kind = words.value;
             words.advance();
-            need(words.kind == Words.PATTERN);
+            takePattern(false);
             if (limit) {
-                policy.addLimitRight(kind, words.pattern);
+                policy.addLimitRight(pattern);
             } else {
-                policy.addGrantRight(kind, words.pattern);
+                policy.addGrantRight(pattern);
             }
+        }
+
+        void readModule() {
             words.advance();
-        }
-
-        private void readModules() {
-            need(words.kind == Words.MODULE);
-            for (int m = 0; m <= MAX_MODULES && words.kind == Words.MODULE; m++) {
-                words.advance();
-                readModule();
-            }
-            need(words.kind == Words.END);
-        }
-
-        private void readModule() {
             needName();
             room(plan.moduleCount < MAX_MODULES);
-            if (plan.findModule(words.name) != NONE) {
+            if (plan.findModule(words.value) != NONE) {
                 refuse(FAULT_TWICE, words.at);
             }
-            module = plan.addModule(words.name);
+            module = plan.addModule(words.value);
             words.advance();
-            needPlace();
-            policy.placeModule(module, words.pattern);
-            words.advance();
+            takePattern(true);
+            policy.placeModule(module, pattern);
             if (words.kind == ':') {
                 readSuper();
             }
@@ -1369,7 +1409,7 @@ public final class WardenHouse {
         private void readSuper() {
             words.advance();
             needName();
-            int above = plan.findModule(words.name);
+            int above = plan.findModule(words.value);
             if (above == NONE || above == module) {
                 refuse(FAULT_UNKNOWN, words.at);
             }
@@ -1381,10 +1421,10 @@ public final class WardenHouse {
             words.advance();
             needName();
             room(plan.fieldCount(module) < MAX_FIELDS);
-            if (plan.fieldSlot(module, words.name) != NONE) {
+            if (plan.fieldSlot(module, words.value) != NONE) {
                 refuse(FAULT_TWICE, words.at);
             }
-            plan.addField(module, words.name);
+            plan.addField(module, words.value);
             words.advance();
             pass(';');
         }
@@ -1393,7 +1433,7 @@ public final class WardenHouse {
             room(plan.methodCount(module) < MAX_METHODS);
             method = openUnit(METHOD);
             now = method;
-            long name = words.name;
+            long name = words.value;
             words.advance();
             pass('(');
             readParameters();
@@ -1413,13 +1453,9 @@ public final class WardenHouse {
 
         private Unit openUnit(int sort) {
             room(plan.unitCount < MAX_UNITS);
-            return plan.addUnit(sort, module, words.at);
-        }
-
-        private Unit openInner(int sort) {
-            Unit inner = openUnit(sort);
-            inner.parent = now.number;
-            return inner;
+            Unit made = plan.addUnit(sort, module, words.at);
+            made.parent = sort == METHOD ? made.number : now.number;
+            return made;
         }
 
         // What the inner UNIT has captured is known only now, so it is got behind all of it.
@@ -1438,10 +1474,10 @@ public final class WardenHouse {
             for (int i = 0; more && i <= MAX_PARAMETERS; i++) {
                 needName();
                 room(i < MAX_PARAMETERS && scopeCount < MAX_VARIABLES);
-                if (findVariable(words.name) >= first) {
+                if (findVariable(words.value) >= first) {
                     refuse(FAULT_TWICE, words.at);
                 }
-                declare(words.name, now.addOwn());
+                declare(words.value, now.addOwn());
                 now.parameters++;
                 words.advance();
                 more = words.kind == ',';
@@ -1507,7 +1543,7 @@ public final class WardenHouse {
             words.advance();
             needName();
             room(scopeCount < MAX_VARIABLES);
-            long name = words.name;
+            long name = words.value;
             words.advance();
             pass('=');
             readExpression(depth + 1);
@@ -1553,7 +1589,7 @@ public final class WardenHouse {
             int key = now.addOwn();
             needName();
             room(scopeCount < MAX_VARIABLES);
-            long name = words.name;
+            long name = words.value;
             words.advance();
             pass(':');
             readBound(name, key, depth);
@@ -1634,33 +1670,35 @@ public final class WardenHouse {
 
         private void readPriv(int depth) {
             part();
-            Unit inner = openInner(PRIV);
+            Unit inner = openUnit(PRIV);
             words.advance();
-            if (words.kind == '[') {
-                inner.sort = LIMITED_PRIV;
-                readLimit(inner);
+            boolean more = words.kind == '[';
+            if (more) {
+                openLimit(inner);
+            }
+            for (int i = 0; more && i <= MAX_RIGHTS; i++) {
+                words.advance();
+                readRight(i, true);
+                more = words.kind == ',';
+            }
+            if (inner.sort == LIMITED_PRIV) {
+                pass(']');
             }
             now = inner;
             readInnerPrefix(depth + 1);
             closeInner(inner, DO_PART);
         }
 
-        private void readLimit(Unit inner) {
+        private void openLimit(Unit inner) {
             room(policy.limitCount < MAX_LIMITS);
+            inner.sort = LIMITED_PRIV;
             inner.limit = policy.limitCount;
             policy.addLimit();
-            boolean more = true;
-            for (int i = 0; more && i <= MAX_RIGHTS; i++) {
-                words.advance();
-                readRight(i, true);
-                more = words.kind == ',';
-            }
-            pass(']');
         }
 
         private void readUnder(int depth) {
             part();
-            Unit inner = openInner(UNDER_UNIT);
+            Unit inner = openUnit(UNDER_UNIT);
             words.advance();
             readInnerPrefix(depth + 1);
             pass(':');
@@ -1690,7 +1728,7 @@ public final class WardenHouse {
             part();
             words.advance();
             needName();
-            int name = plan.nameIndex(words.name);
+            int name = plan.nameIndex(words.value);
             words.advance();
             if (words.kind == '(') {
                 int n = readArguments(depth);
@@ -1758,7 +1796,7 @@ public final class WardenHouse {
             part();
             switch (words.kind) {
                 case Words.NUMBER:
-                    now.emit(DO_NUMBER, plan.numberIndex(words.number), 0);
+                    now.emit(DO_NUMBER, plan.numberIndex((int) words.value), 0);
                     break;
                 case Words.NONE_WORD:
                     now.emit(DO_NONE, 0, 0);
@@ -1770,28 +1808,26 @@ public final class WardenHouse {
                     now.emit(DO_CTX, 0, 0);
                     break;
                 default:
-                    readVariable();
+                    getVariable(variableKey());
                     break;
             }
             words.advance();
         }
 
-        private void readVariable() {
-            needName();
-            int i = findVariable(words.name);
-            if (i < 0) {
+        private int variableKey() {
+            int i = findVariable(words.value);
+            if (i < 0 || i >= MAX_VARIABLES) {
                 refuse(FAULT_UNKNOWN, words.at);
+                return NONE;
             }
-            if (i >= 0 && i < MAX_VARIABLES) {
-                getVariable(scopeKeys[i]);
-            }
+            return scopeKeys[i];
         }
 
         private void readNew() {
             part();
             words.advance();
             needName();
-            int m = plan.findModule(words.name);
+            int m = plan.findModule(words.value);
             if (m == NONE) {
                 refuse(FAULT_UNKNOWN, words.at);
             }
@@ -1802,7 +1838,7 @@ public final class WardenHouse {
         private void readFun(int depth) {
             part();
             int before = scopeCount;
-            Unit inner = openInner(FUNCTION);
+            Unit inner = openUnit(FUNCTION);
             now = inner;
             words.advance();
             pass('(');
@@ -1833,11 +1869,10 @@ public final class WardenHouse {
             policy.addAsking();
             words.advance();
             needName();
-            long kind = words.name;
+            pattern.kind = words.value;
             words.advance();
-            needPlace();
-            policy.setAsking(asking, kind, words.pattern);
-            words.advance();
+            takePattern(true);
+            policy.setAsking(asking, pattern);
             if (words.kind == '[') {
                 policy.setIndexed(asking);
                 words.advance();
@@ -2021,23 +2056,7 @@ public final class WardenHouse {
         }
 
         // NONE stands for ALL, which no frame ever has as its own.
-        int meet(int c, int domain) {
-            load(c);
-            return settle(domain);
-        }
-
-        int own(int domain) {
-            load(NONE);
-            return settle(domain);
-        }
-
-        int limited(int c, int domain, int limit) {
-            load(c);
-            addDraft(1 << MAX_MODULES + limit);
-            return settle(domain);
-        }
-
-        private void load(int c) {
+        void load(int c) {
             draftSize = 0;
             if (c == NONE) {
                 addDraft(0);
@@ -2048,21 +2067,22 @@ public final class WardenHouse {
             }
         }
 
-        private void addDraft(int product) {
+        void addDraft(int product) {
             if (draftSize < MOST_PRODUCTS) {
                 draft[draftSize] = product;
                 draftSize++;
             }
         }
 
-        private int settle(int domain) {
+        // The context that what was loaded becomes when the domain is put into each PRODUCT.
+        int settle(int domain) {
             for (int i = 0; i < draftSize; i++) {
                 draft[i] |= 1 << domain;
             }
             reduce();
             sort();
             int bucket = bucketOf();
-            int c = heads[bucket];
+            int c = bucket >= 0 && bucket < BUCKETS ? heads[bucket] : NONE;
             for (int k = 0; k < MAX_STEPS && c != NONE; k++) {
                 if (isDraft(c)) {
                     return c;
@@ -2128,9 +2148,11 @@ public final class WardenHouse {
         }
 
         private boolean isDraft(int c) {
-            boolean same = productCount(c) == draftSize;
+            int from = starts.at(c);
+            int behind = c + 1 < starts.size ? starts.at(c + 1) : products.size;
+            boolean same = behind - from == draftSize;
             for (int i = 0; same && i < draftSize; i++) {
-                same = product(c, i) == draft[i];
+                same = products.at(from + i) == draft[i];
             }
             return same;
         }
@@ -2155,6 +2177,12 @@ public final class WardenHouse {
         int state;
         int waits;
         long outcome;
+        int failure;
+        // The frame that is to begin here: its UNIT, its stack, and the CONTEXT that an under is given.
+        Unit called;
+        private int calledBase;
+        private int calledBottom;
+        int given;
 
         Strand() {
             units = new int[MAX_FRAMES];
@@ -2176,39 +2204,47 @@ public final class WardenHouse {
             stack.cut(0);
         }
 
-        private boolean framed() {
-            return depth > 0 && depth <= MAX_FRAMES;
+        // Its LOCALS begin at base; what stands from bottom on goes when it ends.
+        void call(Unit unit, int base, int bottom, int context) {
+            called = unit;
+            calledBase = base;
+            calledBottom = bottom;
+            given = context;
         }
 
-        void enter(Unit unit, int base, int bottom, int node, int context) {
-            if (depth < 0 || depth >= MAX_FRAMES) {
+        void enter(int node, int context) {
+            if (called == null || depth < 0 || depth >= MAX_FRAMES) {
                 return;
             }
-            units[depth] = unit.number;
+            units[depth] = called.number;
             places[depth] = 0;
-            bases[depth] = base;
-            bottoms[depth] = bottom;
+            bases[depth] = calledBase;
+            bottoms[depth] = calledBottom;
             nodes[depth] = node;
             contexts[depth] = context;
             depth++;
             began++;
-            for (int i = stack.size; i < base + unit.locals(); i++) {
+            for (int i = stack.size; i < calledBase + called.locals(); i++) {
                 stack.add(Machine.NONE_VALUE);
             }
         }
 
         void leave() {
-            if (framed()) {
+            if (depth > 0 && depth <= MAX_FRAMES) {
                 depth--;
                 stack.cut(bottoms[depth]);
             }
         }
 
-        int unitNumber() {
+        private boolean framed() {
+            return depth > 0 && depth <= MAX_FRAMES;
+        }
+
+        int unitNow() {
             return framed() ? units[depth - 1] : 0;
         }
 
-        int place() {
+        int placeNow() {
             return framed() ? places[depth - 1] : 0;
         }
 
@@ -2218,7 +2254,7 @@ public final class WardenHouse {
             }
         }
 
-        int base() {
+        int baseNow() {
             return framed() ? bases[depth - 1] : 0;
         }
 
@@ -2237,9 +2273,10 @@ public final class WardenHouse {
 
         // Drops all above the innermost open try of the top frame: its place; NONE without one.
         int dropToTry() {
-            for (int i = stack.size - 1; i >= base(); i--) {
+            int base = baseNow();
+            for (int i = stack.size - 1; i >= base; i--) {
                 if (Machine.sortOf(stack.get(i)) == Machine.TRY_MARK) {
-                    int place = (int) stack.get(i);
+                    int place = stack.at(i);
                     stack.cut(i);
                     return place;
                 }
@@ -2264,8 +2301,11 @@ public final class WardenHouse {
         static final int TRY_MARK = 5;
         static final long NONE_VALUE = 1L << 32;
 
+        // What an instruction leaves to be done: to go on, to let one be chosen, a FAILURE, a frame to begin.
         private static final int GOES = 0;
         private static final int RESTS = 1;
+        private static final int FAILS = 2;
+        private static final int CALLS = 3;
 
         private static final int ENDED = 0;
         private static final int STUCK = 1;
@@ -2304,6 +2344,8 @@ public final class WardenHouse {
         private int seed;
         private int drawn;
         private boolean rewritten;
+        // Where the frame that is to begin will stand: a new thread's, if it is spawned.
+        private Strand target;
         boolean ran;
 
         Machine(Plan itsPlan, Policy itsPolicy) {
@@ -2314,6 +2356,7 @@ public final class WardenHouse {
             for (int t = 0; t < MAX_THREADS; t++) {
                 strands[t] = new Strand();
             }
+            target = strands[0];
             nodes = new Row(48);
             things = new Row(32);
             slots = new Row(64);
@@ -2332,7 +2375,7 @@ public final class WardenHouse {
             ran = false;
         }
 
-        int work(Unit unit, int itsSeed, int itsSteps, boolean anew) {
+        void prepare(Unit unit, int itsSeed, int itsSteps, boolean anew) {
             contexts.clear();
             nodes.cut(0);
             things.cut(0);
@@ -2349,15 +2392,14 @@ public final class WardenHouse {
             drawn = itsSeed;
             rewritten = anew;
             ran = true;
-            Strand first = strands[0];
-            first.clear(0);
-            makeObject(first, unit.module);
-            begin(first, null, unit, 0, 0, NONE);
-            goOn();
-            return ending;
+            target = strands[0];
+            target.clear(0);
+            makeObject(target, unit.module);
+            target.call(unit, 0, 0, NONE);
+            begin(target);
         }
 
-        private void goOn() {
+        int goOn() {
             int t = 0;
             for (int i = 0; i < MANY && t != NONE; i++) {
                 goThread(strandAt(t));
@@ -2366,10 +2408,15 @@ public final class WardenHouse {
             if (ending != CUT) {
                 ending = allEnded() ? ENDED : STUCK;
             }
+            return ending;
         }
 
         private Strand strandAt(int t) {
             return strands[t >= 0 && t < MAX_THREADS ? t : 0];
+        }
+
+        private boolean hasEnded(int t) {
+            return strandAt(t).state != Strand.GOES_ON;
         }
 
         private boolean allEnded() {
@@ -2378,10 +2425,6 @@ public final class WardenHouse {
                 all = all && hasEnded(t);
             }
             return all;
-        }
-
-        private boolean hasEnded(int t) {
-            return strandAt(t).state != Strand.GOES_ON;
         }
 
         private boolean canGoOn(int t) {
@@ -2417,46 +2460,38 @@ public final class WardenHouse {
                 strand.waits = NONE;
                 state = takeOutcome(strand, other);
             }
-            for (int i = 0; i < MANY && state == GOES; i++) {
-                state = step(strand);
+            for (int i = 0; i < MANY && state != RESTS; i++) {
+                if (state == FAILS) {
+                    state = raise(strand);
+                } else if (state == CALLS) {
+                    state = begin(strand);
+                } else {
+                    state = step(strand);
+                }
             }
         }
 
         private int step(Strand strand) {
-            Row code = plan.unitAt(strand.unitNumber()).plain;
-            int place = strand.place();
+            Row code = plan.unitAt(strand.unitNow()).plain;
+            int place = strand.placeNow();
             int what = code.at(place);
-            if (place >= code.size || what < 0 || what >= OPERANDS.length) {
-                return RESTS;
-            }
-            strand.goTo(place + 1 + 2 * OPERANDS[what]);
-            int a = OPERANDS[what] > 0 ? code.pairAt(place + 1) : 0;
-            int b = OPERANDS[what] > 1 ? code.pairAt(place + 3) : 0;
-            if (what >= DO_ADD && what <= DO_LESS) {
-                return calculate(strand, what);
-            }
-            return what < DO_DROP ? doValue(strand, what, a, b) : doFlow(strand, what, a);
-        }
-
-        private int doValue(Strand strand, int what, int a, int b) {
+            int operands = what >= 0 && what < OPERANDS.length ? OPERANDS[what] : 0;
+            int a = operands > 0 ? code.pairAt(place + 1) : 0;
+            strand.goTo(place + 1 + 2 * operands);
             switch (what) {
                 case DO_NUMBER: return push(strand, valueOf(INT, plan.numberAt(a)));
                 case DO_NONE: return push(strand, NONE_VALUE);
-                case DO_GET: return push(strand, strand.stack.get(strand.base() + a));
+                case DO_GET: return push(strand, strand.stack.get(strand.baseNow() + a));
                 case DO_PUT: return put(strand, a);
                 case DO_NEW: return makeObject(strand, a);
                 case DO_READ: return readField(strand, a);
                 case DO_WRITE: return writeField(strand, a);
-                case DO_SEND: return send(strand, a, b);
+                case DO_SEND: return send(strand, a, code.pairAt(place + 3));
                 case DO_APPLY: return apply(strand, a);
                 case DO_FUN: return makeFun(strand, plan.unitAt(a));
-                case DO_PART: return beginPart(strand, plan.unitAt(a));
-                default: return compareSame(strand);
-            }
-        }
-
-        private int doFlow(Strand strand, int what, int a) {
-            switch (what) {
+                case DO_PART: return callPart(strand, plan.unitAt(a));
+                case DO_ADD: case DO_SUBTRACT: case DO_MULTIPLY: case DO_LESS: return calculate(strand, what);
+                case DO_SAME: return compareSame(strand);
                 case DO_DROP: return drop(strand);
                 case DO_GO: return jump(strand, a);
                 case DO_ZERO: return jumpIfZero(strand, a);
@@ -2479,7 +2514,7 @@ public final class WardenHouse {
         }
 
         private static int put(Strand strand, int local) {
-            strand.stack.set(strand.base() + local, strand.stack.pop());
+            strand.stack.set(strand.baseNow() + local, strand.stack.pop());
             return GOES;
         }
 
@@ -2493,10 +2528,15 @@ public final class WardenHouse {
             return GOES;
         }
 
+        private static int fail(Strand strand, int failure) {
+            strand.failure = failure;
+            return FAILS;
+        }
+
         private int jumpIfZero(Strand strand, int place) {
             long value = strand.stack.pop();
             if (sortOf(value) != INT) {
-                return raise(strand, FAIL_INT);
+                return fail(strand, FAIL_INT);
             }
             if ((int) value == 0) {
                 strand.goTo(place);
@@ -2514,7 +2554,7 @@ public final class WardenHouse {
             long right = strand.stack.pop();
             long left = strand.stack.pop();
             if (sortOf(left) != INT || sortOf(right) != INT) {
-                return raise(strand, FAIL_INT);
+                return fail(strand, FAIL_INT);
             }
             int x = (int) left;
             int y = (int) right;
@@ -2530,7 +2570,7 @@ public final class WardenHouse {
             long right = strand.stack.pop();
             long left = strand.stack.pop();
             if (sortOf(left) > OBJECT || sortOf(right) > OBJECT) {
-                return raise(strand, FAIL_INT);
+                return fail(strand, FAIL_INT);
             }
             return push(strand, valueOf(INT, left == right ? 1 : 0));
         }
@@ -2556,7 +2596,7 @@ public final class WardenHouse {
 
         private int makeObject(Strand strand, int module) {
             if (thingCount() >= MAX_THINGS) {
-                return raise(strand, FAIL_THINGS);
+                return fail(strand, FAIL_THINGS);
             }
             int made = addThing(module);
             for (int i = 0; i < plan.fieldTotal(module); i++) {
@@ -2567,7 +2607,7 @@ public final class WardenHouse {
 
         private int makeFun(Strand strand, Unit unit) {
             if (thingCount() >= MAX_THINGS) {
-                return raise(strand, FAIL_THINGS);
+                return fail(strand, FAIL_THINGS);
             }
             int made = addThing(unit.number);
             int from = strand.stack.size - unit.captured;
@@ -2581,11 +2621,11 @@ public final class WardenHouse {
         private int readField(Strand strand, int name) {
             long object = strand.stack.pop();
             if (sortOf(object) != OBJECT) {
-                return raise(strand, FAIL_SORT);
+                return fail(strand, FAIL_SORT);
             }
             int slot = plan.fieldSlot(thingOf(object), plan.nameAt(name));
             if (slot == NONE) {
-                return raise(strand, FAIL_MEMBER);
+                return fail(strand, FAIL_MEMBER);
             }
             return push(strand, slots.get(slotsOf(object) + slot));
         }
@@ -2594,11 +2634,11 @@ public final class WardenHouse {
             long value = strand.stack.pop();
             long object = strand.stack.pop();
             if (sortOf(object) != OBJECT) {
-                return raise(strand, FAIL_SORT);
+                return fail(strand, FAIL_SORT);
             }
             int slot = plan.fieldSlot(thingOf(object), plan.nameAt(name));
             if (slot == NONE) {
-                return raise(strand, FAIL_MEMBER);
+                return fail(strand, FAIL_MEMBER);
             }
             slots.set(slotsOf(object) + slot, value);
             return push(strand, value);
@@ -2607,31 +2647,37 @@ public final class WardenHouse {
         private int send(Strand strand, int name, int n) {
             long object = strand.peek(n);
             if (sortOf(object) != OBJECT) {
-                return raise(strand, FAIL_SORT);
+                return fail(strand, FAIL_SORT);
             }
             int found = plan.findMethod(thingOf(object), plan.nameAt(name), n);
             if (found == NONE) {
-                return raise(strand, FAIL_MEMBER);
+                return fail(strand, FAIL_MEMBER);
             }
             int base = strand.stack.size - 1 - n;
-            return begin(strand, strand, plan.unitAt(found), base, base, NONE);
+            return call(strand, plan.unitAt(found), base, base, NONE);
+        }
+
+        private int call(Strand strand, Unit unit, int base, int bottom, int given) {
+            target = strand;
+            strand.call(unit, base, bottom, given);
+            return CALLS;
         }
 
         private int apply(Strand strand, int n) {
             long fun = strand.peek(n);
             if (sortOf(fun) != CLOSURE) {
-                return raise(strand, FAIL_SORT);
+                return fail(strand, FAIL_SORT);
             }
             Unit unit = plan.unitAt(thingOf(fun));
             if (unit.parameters != n) {
-                return raise(strand, FAIL_PARAMETERS);
+                return fail(strand, FAIL_PARAMETERS);
             }
             int base = strand.stack.size;
             pushCaptured(strand, fun, unit);
             for (int i = 0; i < n; i++) {
                 push(strand, strand.stack.get(base - n + i));
             }
-            return begin(strand, strand, unit, base, base - 1 - n, NONE);
+            return call(strand, unit, base, base - 1 - n, NONE);
         }
 
         private void pushCaptured(Strand strand, long fun, Unit unit) {
@@ -2640,55 +2686,55 @@ public final class WardenHouse {
             }
         }
 
-        private int beginPart(Strand strand, Unit unit) {
+        private int callPart(Strand strand, Unit unit) {
             int base = strand.stack.size - unit.captured;
             if (unit.sort != UNDER_UNIT) {
-                return begin(strand, strand, unit, base, base, NONE);
+                return call(strand, unit, base, base, NONE);
             }
             long given = strand.peek(unit.captured);
             if (sortOf(given) != CONTEXT) {
-                return raise(strand, FAIL_SORT);
+                return fail(strand, FAIL_SORT);
             }
-            return begin(strand, strand, unit, base, base - 1, (int) given);
+            return call(strand, unit, base, base - 1, (int) given);
         }
 
-        // The frame goes to strand; the one that begins it is the top one of from (null: none does).
-        private int begin(Strand strand, Strand from, Unit unit, int base, int bottom, int given) {
-            if (steps >= mostSteps) {
+        // The top frame of strand begins the one that its target was called with; a run's first has none.
+        private int begin(Strand strand) {
+            Unit unit = target.called;
+            if (unit == null || steps >= mostSteps) {
                 ending = CUT;
                 return RESTS;
             }
-            if (strand.depth >= MAX_FRAMES) {
-                return raise(strand, FAIL_FRAMES);
+            if (target.depth >= MAX_FRAMES) {
+                return fail(target, FAIL_FRAMES);
             }
             steps++;
-            int node = NONE;
-            int context = NONE;
-            if (rewritten) {
-                context = unit.needs ? makeContext(unit, from == null ? NONE : from.contextNow(), given) : NONE;
-            } else {
-                node = addNode(unit, from == null ? NONE : from.nodeNow(), given);
+            int node = rewritten ? NONE : addNode(unit, strand.nodeNow());
+            int context = rewritten && unit.needs ? makeContext(unit, strand.contextNow()) : NONE;
+            target.enter(node, context);
+            mostFrames = Math.max(mostFrames, target.depth);
+            if (target == strand) {
+                return GOES;
             }
-            strand.enter(unit, base, bottom, node, context);
-            mostFrames = Math.max(mostFrames, strand.depth);
-            return GOES;
+            push(strand, valueOf(INT, strandCount));
+            strandCount++;
+            return RESTS;
         }
 
         // Frames stay here behind their end, as a CONTEXT or a thread may still lead to them.
-        private int addNode(Unit unit, int below, int given) {
+        private int addNode(Unit unit, int below) {
             nodes.add(unit.number);
             nodes.add(below);
-            nodes.add(given);
+            nodes.add(target.given);
             return nodes.size / NODE_CELLS - 1;
         }
 
-        private int makeContext(Unit unit, int outer, int given) {
-            switch (unit.sort) {
-                case PRIV: return contexts.own(unit.domain);
-                case LIMITED_PRIV: return contexts.limited(outer, unit.domain, unit.limit);
-                case UNDER_UNIT: return contexts.meet(given, unit.domain);
-                default: return contexts.meet(outer, unit.domain);
+        private int makeContext(Unit unit, int outer) {
+            contexts.load(unit.sort == PRIV ? NONE : unit.sort == UNDER_UNIT ? target.given : outer);
+            if (unit.sort == LIMITED_PRIV) {
+                contexts.addDraft(1 << MAX_MODULES + unit.limit);
             }
+            return contexts.settle(unit.domain);
         }
 
         private int back(Strand strand) {
@@ -2701,7 +2747,8 @@ public final class WardenHouse {
             return RESTS;
         }
 
-        private int raise(Strand strand, int failure) {
+        private int raise(Strand strand) {
+            int failure = strand.failure;
             for (int i = 0; i <= MAX_FRAMES && strand.depth > 0; i++) {
                 int place = strand.dropToTry();
                 if (place != NONE) {
@@ -2729,7 +2776,7 @@ public final class WardenHouse {
         private int writeOut(Strand strand) {
             long value = strand.peek(0);
             if (sortOf(value) != INT) {
-                return raise(strand, FAIL_INT);
+                return fail(strand, FAIL_INT);
             }
             record(strand, EVENT_OUT, (int) value, NONE, NONE);
             return RESTS;
@@ -2737,40 +2784,35 @@ public final class WardenHouse {
 
         private int failWith(Strand strand) {
             long value = strand.stack.pop();
-            return raise(strand, sortOf(value) == INT ? (int) value : FAIL_INT);
+            return fail(strand, sortOf(value) == INT ? (int) value : FAIL_INT);
         }
 
         private int spawn(Strand strand) {
             long fun = strand.stack.pop();
             if (sortOf(fun) != CLOSURE) {
-                return raise(strand, FAIL_SORT);
+                return fail(strand, FAIL_SORT);
             }
             Unit unit = plan.unitAt(thingOf(fun));
             if (unit.parameters != 0) {
-                return raise(strand, FAIL_PARAMETERS);
+                return fail(strand, FAIL_PARAMETERS);
             }
             if (strandCount >= MAX_THREADS) {
-                return raise(strand, FAIL_THREADS);
+                return fail(strand, FAIL_THREADS);
             }
             Strand made = strandAt(strandCount);
             made.clear(strandCount);
             pushCaptured(made, fun, unit);
-            begin(made, strand, unit, 0, 0, NONE);
-            if (ending != CUT) {
-                push(strand, valueOf(INT, strandCount));
-                strandCount++;
-            }
-            return RESTS;
+            return call(made, unit, 0, 0, NONE);
         }
 
         private int await(Strand strand) {
             long value = strand.stack.pop();
             if (sortOf(value) != INT) {
-                return raise(strand, FAIL_INT);
+                return fail(strand, FAIL_INT);
             }
             int t = (int) value;
             if (t < 0 || t >= strandCount || t == strand.number) {
-                return raise(strand, FAIL_WAIT);
+                return fail(strand, FAIL_WAIT);
             }
             if (hasEnded(t)) {
                 return takeOutcome(strand, strandAt(t));
@@ -2781,7 +2823,7 @@ public final class WardenHouse {
 
         private int takeOutcome(Strand strand, Strand other) {
             if (other.state == Strand.HAS_FAILED) {
-                return raise(strand, (int) other.outcome);
+                return fail(strand, (int) other.outcome);
             }
             return push(strand, other.outcome);
         }
@@ -2792,16 +2834,20 @@ public final class WardenHouse {
                 long value = strand.stack.pop();
                 index = (int) value;
                 if (sortOf(value) != INT || index < 0 || index > MAX_INDEX) {
-                    return raise(strand, FAIL_INT);
+                    return fail(strand, FAIL_INT);
                 }
             }
-            int holders = policy.holdersOf(asking, index);
+            int holders = policy.holdersOf(asking);
+            if (index != NONE) {
+                policy.aim(asking, index);
+                holders = policy.holders(policy.goal);
+            }
             boolean granted = rewritten ? contexts.grants(strand.contextNow(), holders) : walk(strand.nodeNow(), holders);
             int answer = granted ? 1 : 0;
             if (check) {
                 record(strand, EVENT_CHECK, answer, asking, index);
             }
-            return check && !granted ? raise(strand, FAIL_REFUSED) : push(strand, valueOf(INT, answer));
+            return check && !granted ? fail(strand, FAIL_REFUSED) : push(strand, valueOf(INT, answer));
         }
 
         // Each frame leads to an earlier one, so there are no more than STEPS of them.
