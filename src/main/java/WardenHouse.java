@@ -1094,10 +1094,6 @@ public final class WardenHouse {
             return m >= 0 && m < moduleCount;
         }
 
-        int superOf(int m) {
-            return isModule(m) ? supers[m] : NONE;
-        }
-
         void setSuper(int m, int above) {
             if (isModule(m) && isModule(above)) {
                 supers[m] = above;
@@ -2299,7 +2295,7 @@ public final class WardenHouse {
         static final int CONTEXT = 4;
         // Stands on a stack alone, where a try is open, so that a FAILURE finds it.
         static final int TRY_MARK = 5;
-        static final long NONE_VALUE = 1L << 32;
+        static final long NONE_VALUE = (long) NOTHING << 32;
 
         // What an instruction leaves to be done: to go on, to let one be chosen, a FAILURE, a frame to begin.
         private static final int GOES = 0;
