@@ -1,3 +1,6 @@
+import java.util.HashSet;
+import java.util.Set;
+
 /** Promises 15 and 18, over sections 4 and 5: what is granted, frames looked at, contexts. */
 public final class GuardTest {
     private static final String HOUSE =
@@ -28,6 +31,7 @@ public final class GuardTest {
         guarded("q", "0:2:2", 0, "");
         belowStays();
         products();
+        manyContexts();
         without();
         agreement();
         Trial.end();
@@ -92,6 +96,44 @@ public final class GuardTest {
         Trial.due("h", house.run(h, 0, 100, false), 0);
         Trial.due("value of h", house.thread(0, 1), 1);
         Trial.due("looked at", house.result(6), 2);
+    }
+
+    // Four modules lead to one another as numbers fall: each context is kept once, as it was first made.
+    private static void manyContexts() {
+        String go = "{ go(h, n, s) = if n < 1 then able r /x + 2 * able r /y else priv [r %] h.pick(s * 7 + #).go(h, n - 1, s * 7 + #); } ";
+        String text = "grant /b { r /-; } grant /g { r /x; } grant /c { r /-; r /*; r /z; } grant /f { } grant /* { r /*; r /y; }"
+            + " module hub /h { field a; field b; field c; field d; pick(s) = if s < 0 - 1176750740 then self.a else"
+            + " if s < 0 - 138382602 then self.b else if s < 1557950220 then self.c else self.d; }"
+            + " module m0 /c " + go.replace("[r %]", "[r /x] priv [r /w]").replace("7", "214013").replace("#", "6523")
+            + "module m1 /g " + go.replace("%", "/y").replace("7", "214013").replace("#", "19892")
+            + "module m2 /e " + go.replace("%", "/z").replace("7", "1103515245").replace("#", "71064")
+            + "module m3 /f " + go.replace("%", "/z").replace("7", "1103515245").replace("#", "3784")
+            + "module z /b { main() = let h = new hub in { h.a := new m0; h.b := new m1; h.c := new m2; h.d := new m3;"
+            + " out h.a.go(h, 17, 1024358570); out h.a.go(h, 19, 1132862007); out h.a.go(h, 8, 1174837943);"
+            + " out h.a.go(h, 17, 608817574); out h.a.go(h, 16, 1598194479) }; }";
+        WardenHouse house = Trial.house(text);
+        int main = house.count(0) - 1;
+        Trial.due("run", house.run(main, 0, 4000, false), 0);
+        String events = Trial.events(house);
+        Trial.due("run", house.run(main, 0, 4000, true), 0);
+        Trial.due("events", Trial.events(house), events);
+        Trial.due("contexts", house.result(7), 93);
+        Set<String> all = new HashSet<>();
+        int hash = 0;
+        for (int k = 0; k < house.result(7); k++) {
+            String one = "";
+            for (int i = 0; i < house.context(k, -1); i++) {
+                int product = house.context(k, i);
+                one += product + " ";
+                hash = hash * 31 + product;
+                for (int j = 0; j < i; j++) {
+                    Trial.due("rising", house.context(k, j) < product, true);
+                    Trial.due("one within another", (house.context(k, j) & ~product) == 0, false);
+                }
+            }
+            Trial.due("a new one", all.add(one), true);
+        }
+        Trial.due("all products", hash, -1151810117);
     }
 
     private static void without() {

@@ -173,6 +173,13 @@ public final class RunTest {
         gives("under none : 1", "fails 3");
         gives("under fail 4 : 1", "fails 4");
         gives("1 + priv 2 * 3", "7 0");
+        // What a frame leaves behind it is its value alone.
+        gives("let x = 5 in 20 - fun(y) { x + y }(1)", "14 0");
+        gives("let x = 5 in 20 - priv x - 1", "14 0");
+        gives("let x = 5 in 20 - under ctx : x - 1", "14 0");
+        gives("let x = 5 in 20 - self.two(x - 5, x) - 1", "14 0");
+        gives("let x = 5 in 20 - (try fun(y, z) { x + fail 2 }(1, 2) catch e : e) - 1", "17 0");
+        gives("let x = 5 in 20 - (try under ctx : self.two(1, fun() { x + fail 2 }()) catch e : e) - 1", "17 0");
     }
 
     private static void threads() {
@@ -279,6 +286,11 @@ public final class RunTest {
             Trial.due("results", Trial.results(house), "2 3 2 3 2 2 0 0");
             Trial.due("cut at spawn", house.run(5, 0, 1, anew), 2);
             Trial.due("results", Trial.results(house), "2 1 1 0 1 2 0 0");
+            // Nothing of a run that was cut is left in the next.
+            Trial.due("run behind a cut", house.run(3, 0, 5, anew), 0);
+            Trial.due("events", Trial.events(house), "0:0:3 0:0:4 1:0:1 1:0:2");
+            Trial.due("thread 0", Trial.thread(house, 0), "1 2 0 2 -1");
+            Trial.due("thread 1", Trial.thread(house, 1), "1 2 0 2 -1");
         }
     }
 }
