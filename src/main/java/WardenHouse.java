@@ -1788,7 +1788,6 @@ public final class WardenHouse {
         }
 
         private void readPlainAtom() {
-            need(words.beginsPrefix());
             part();
             switch (words.kind) {
                 case Words.NUMBER:

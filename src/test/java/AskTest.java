@@ -31,6 +31,8 @@ public final class AskTest {
             + " module m /a { a() = priv [r /x/-, w /y] priv [w /x/1] 1; } module n /b { } module o /c { } module p /d { }");
         Trial.due("program", house.program(), 3);
         hasAll(house, "r /x/1", "1 1 0 0", "1 0");
+        hasAll(house, "r /x/a", "1 0 0 0", "1 0");
+        hasAll(house, "r /ax", "0 0 0 0", "0 0");
         hasAll(house, "r /x/2", "1 0 0 0", "1 0");
         hasAll(house, "r /x", "0 0 1 0", "0 0");
         hasAll(house, "r /x/1/2", "0 0 1 0", "1 0");

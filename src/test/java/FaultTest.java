@@ -111,6 +111,8 @@ public final class FaultTest {
         Trial.fault(1, "module m ^{ }");
         Trial.fault(1, "module m /a : ^{ }");
         Trial.fault(1, "module m /a { field f^, g; }");
+        Trial.fault(1, "module m /a { field ^1; }");
+        Trial.fault(1, "module m /a { field ^let; }");
         Trial.fault(1, "module m /a { a() = 1; ^field f; }");
         Trial.fault(1, "module m /a { a() = 1 ^}");
         Trial.fault(1, "module m /a { a(^1) = 1; }");
@@ -129,6 +131,7 @@ public final class FaultTest {
         Trial.fault(1, body("1 + ^let x = 1 in x"));
         Trial.fault(1, body("out ^if 1 then 2 else 3"));
         Trial.fault(1, body("let x = 1 ^; x"));
+        Trial.fault(1, body("let ^1 = 1 in 1"));
         Trial.fault(1, body("if 1 then 2 ^"));
         Trial.fault(1, body("try 1 catch ^3 : 4"));
         Trial.fault(1, body("^- 1"));
@@ -171,7 +174,9 @@ public final class FaultTest {
         Trial.fault(1, "module m /a { a(x) = 1; a(y ^= 3; }");
         Trial.fault(2, "module m /a { a(x) = 1; ^a(y) + 3; }");
         Trial.noFault("module m /a { a(x) = 1; } module n /a : m { a(x) = 1; }");
+        Trial.noFault("module a /a { field a; field aa; field a0; field a00; } module aa /a { } module aaa /a { } module a0 /a { }");
         Trial.fault(3, "module m /a { a(x) = ^y; }");
+        Trial.fault(3, "module m /a { a(aa) = ^a; }");
         Trial.fault(3, "module m /a { a(x) = 1; b() = ^x; }");
         Trial.fault(3, "module m /a { a() = let x = ^x in x; }");
         Trial.fault(3, "module m /a { a() = (let x = 1 in x) + ^x; }");
@@ -267,6 +272,12 @@ public final class FaultTest {
         Trial.fault(4, "module m /a { a() = " + Trial.times("under ctx : ", 23) + "under ^ctx : 1; }");
         Trial.noFault("module m /a { a() = " + Trial.times("if 1 then 2 else ", 23) + "1; }");
         Trial.fault(4, "module m /a { a() = " + Trial.times("if 1 then 2 else ", 23) + "if ^1 then 2 else 3; }");
+        // The later parts of one are as deep as the first.
+        for (String e : new String[] {"let x = 1 in (^1)", "if 1 then (^1) else 1", "if 1 then 1 else (^1)", "try 1 catch e : (^1)",
+            "{ 1; (^1) }", "self(1, (^1))", "self.a(1, 2, (^1))", "fun() { 1; (^1) }", "1 + out (^1)", "under 1 : (^1)"}) {
+            Trial.fault(4, "module m /a { a() = " + Trial.times("(", 22) + e + Trial.times(")", 22) + "; }");
+            Trial.noFault("module m /a { a() = " + Trial.times("(", 21) + e.replace("^", "") + Trial.times(")", 21) + "; }");
+        }
         // A PREFIX between signs is none of its own.
         Trial.noFault("module m /a { a() = " + Trial.times("(", 23) + "1 + 2 * 3 < 4" + Trial.times(")", 23) + "; }");
     }

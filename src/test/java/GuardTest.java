@@ -115,6 +115,8 @@ public final class GuardTest {
         int main = house.count(0) - 1;
         Trial.due("run", house.run(main, 0, 4000, false), 0);
         String events = Trial.events(house);
+        // A run cut short ahead of it leaves none of its contexts.
+        Trial.due("run", house.run(main, 0, 99, true), 2);
         Trial.due("run", house.run(main, 0, 4000, true), 0);
         Trial.due("events", Trial.events(house), events);
         Trial.due("contexts", house.result(7), 93);

@@ -110,7 +110,13 @@ public final class HistoryTest {
         Trial.due("run", house.run(0, 0, 100, true), 0);
         Trial.due("events", Trial.events(house).substring(0, 11), "0:0:1 0:2:8");
         Trial.due("events", Trial.events(house), "0:0:1 0:2:8 1:2:8 2:0:8");
-        // Cut while it waits for one that has ended already: it waits no more.
+        // 1 and 0 wait for 2; it ends, 0 goes on first and is cut: 1 waits for none that has not ended.
+        house = Trial.house("module m /a { a() = { spawn fun() { wait 2 }; spawn fun() { 5 }; wait 2; self.b() }; b() = 1; }");
+        Trial.due("run", house.run(0, 0, 3, false), 2);
+        Trial.due("thread 0", Trial.thread(house, 0), "0 0 -1 1 -1");
+        Trial.due("thread 1", Trial.thread(house, 1), "0 0 -1 1 -1");
+        Trial.due("thread 2", Trial.thread(house, 2), "1 5 0 1 -1");
+        // The next is chosen by its number, whatever it waited for.
         house = Trial.house("module m /a { a() = { spawn fun() { out 1; 5 }; spawn fun() { out 2; self.b(); 1 }; wait 1 }; b() = 1; }");
         Trial.due("run", house.run(0, 0, 3, false), 2);
         Trial.due("thread 0", Trial.thread(house, 0), "1 5 0 1 -1");

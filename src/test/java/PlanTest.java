@@ -114,6 +114,12 @@ public final class PlanTest {
         Trial.due("sorts", Trial.units(house, 0), "0 1 2 0 0 4 1 0 2 4");
         Trial.due("captured", Trial.units(house, 4), "0 3 3 0 0 2 1 0 1 1");
         Trial.due("locals", Trial.units(house, 5), "3 4 3 4 3 3 1 3 1 1");
+        // Each is captured once, and up to twelve variables and self can be.
+        house = Trial.house("module m /a { a(x) = fun() { x + x + self.b(self, x) }; c() = "
+            + Trial.numbered("let v% = 1 in ", "", 12) + "priv { " + Trial.numbered("v%", "; ", 12) + "; self; v3 }; }");
+        Trial.due("captured", Trial.units(house, 4), "0 2 0 13");
+        Trial.due("locals", Trial.units(house, 5), "2 2 13 13");
+        Trial.due("code", Trial.code(house, 3, false).endsWith("16 2 0 11 16 2 0 12 16 2 0 3 28"), true);
         // An under is numbered ahead of what stands in its first PREFIX.
         house = Trial.house("module m /a { a() = under priv ctx : fun(x) { x }; }");
         Trial.due("sorts", Trial.units(house, 0), "0 4 2 1");

@@ -173,7 +173,10 @@ public final class RunTest {
         gives("under none : 1", "fails 3");
         gives("under fail 4 : 1", "fails 4");
         gives("1 + priv 2 * 3", "7 0");
-        // What a frame leaves behind it is its value alone.
+        // What a frame, a ROW or a try leaves behind it is its value alone.
+        gives("20 - { 1; 2; 6 }", "14 0");
+        gives("20 - (try 6 catch e : 3)", "14 0");
+        gives("{ try 1 catch e : 2; fail 7 }", "fails 7");
         gives("let x = 5 in 20 - fun(y) { x + y }(1)", "14 0");
         gives("let x = 5 in 20 - priv x - 1", "14 0");
         gives("let x = 5 in 20 - under ctx : x - 1", "14 0");
