@@ -80,6 +80,14 @@ public final class FaultTest {
         Trial.noFault(body("self.f:=p"));
         Trial.fault(1, body("self.f ^: = p"));
         Trial.fault(1, "module m /a { } # no end\n ^\u00ff");
+        for (char c : new char[] {0, 1, 2, 3, 4, 9, 13, 31, '!', '"', '&', '>', '_', '|', 127, 128, 200, 201, 210, 211, 255}) {
+            Trial.fault(1, "module ^" + c + " /a { }");
+            Trial.fault(1, "^" + c + " /a { }");
+            Trial.fault(1, "module m ^" + c + " { }");
+            Trial.fault(1, body("^" + c));
+            Trial.fault(1, body("self.f ^" + c + " 1"));
+            Trial.fault(1, "module m /a { } ^" + c);
+        }
     }
 
     private static void patterns() {
