@@ -201,6 +201,38 @@ final class Trial {
         return all.toString();
     }
 
+    /** The unit whose word or name stands where head begins in the text, behind a blank; NONE without. */
+    static int unitAt(WardenHouse house, String text, String head) {
+        int place = text.indexOf(" " + head) + 1;
+        for (int u = 0; u < house.count(0); u++) {
+            if (house.unit(u, 2) == place) {
+                return u;
+            }
+        }
+        due("a unit at " + head, 0, 1);
+        return WardenHouse.NONE;
+    }
+
+    /** How program() answers for what is on the tape; NONE for IllegalArgumentException. */
+    static int program(WardenHouse house) {
+        try {
+            return house.program();
+        } catch (IllegalArgumentException e) {
+            return WardenHouse.NONE;
+        }
+    }
+
+    /** How run() answers; -1 for IllegalStateException, -2 for IllegalArgumentException. */
+    static int run(WardenHouse house, int u, int seed, int steps, boolean rewritten) {
+        try {
+            return house.run(u, seed, steps, rewritten);
+        } catch (IllegalStateException e) {
+            return -1;
+        } catch (IllegalArgumentException e) {
+            return -2;
+        }
+    }
+
     private static String spaced(List<?> all) {
         StringBuilder text = new StringBuilder();
         for (Object one : all) {
