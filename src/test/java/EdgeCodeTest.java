@@ -12,6 +12,7 @@ public final class EdgeCodeTest {
         localsAsTheirWordsCome();
         codeCalls();
         highBytesOfPlaces();
+        runsWithHighBytes();
         greatestOperands();
         lastLocalOfTheRewritten();
         needsByGroups();
@@ -237,6 +238,47 @@ public final class EdgeCodeTest {
             Trial.due("ZERO to A", three(house, length + 3), "18 " + two(length + 12));
             Trial.due("rewritten ZERO to A", house.code(0, true, length + 9) + " " + house.code(0, true, length + 10) + " " + house.code(0, true, length + 11), "18 " + two(length + 18));
         }
+    }
+
+    // Section 7, at run: NUMBERs, NAMES and places of 256 and more are those that the text has.
+    private static void runsWithHighBytes() {
+        for (int length = 240; length <= 262; length++) {
+            String row = Trial.times("none; ", (length - 3) / 2);
+            for (int turn = 0; turn < 2; turn++) {
+                String last = length % 2 == 1 ? "" : "out ";
+                runs("{ if { " + row + last + "0 } then 6 else 7 }", turn, 7);
+                runs("{ if { " + row + last + "1 } then 6 else 7 }", turn, 6);
+                runs("try { " + row + last + "(fail 5) } catch e : e + 10", turn, 15);
+                runs("try { " + row + last + "8 } catch e : e + 10", turn, 8);
+            }
+        }
+        StringBuilder numbers = new StringBuilder("module m /a { a() = none");
+        for (int i = 0; i < 98; i++) {
+            numbers.append('(').append(1000 + 3 * i).append(',').append(1001 + 3 * i).append(',').append(1002 + 3 * i).append(')');
+        }
+        WardenHouse house = Trial.house(numbers + "; b() = 1254; c() = 1255; d() = 1256; e() = 1293; }");
+        int[] due = {1254, 1255, 1256, 1293};
+        for (int u = 1; u <= 4; u++) {
+            Trial.run(house, u, 0, 1, u % 2 == 0);
+            Trial.due("NUMBER " + due[u - 1], house.thread(0, 1), due[u - 1]);
+        }
+        StringBuilder names = new StringBuilder("module m /a { field n255; field n256; field last; n254(x) = x + 1; n257() = 44; a() = self");
+        for (int i = 0; i < 360; i++) {
+            names.append(".n").append(i);
+        }
+        house = Trial.house(names + "; b() = { self.n255 := 3; self.n256 := 4; self.last := 5; self.n255 * 100 + self.n256 * 10 + self.last }; c() = self.n254(self.n257()); }");
+        for (int turn = 0; turn < 2; turn++) {
+            Trial.run(house, 3, 0, 1, turn == 1);
+            Trial.due("fields", house.thread(0, 0) + " " + house.thread(0, 1), "1 345");
+            Trial.run(house, 4, 0, 3, turn == 1);
+            Trial.due("METHODs", house.thread(0, 0) + " " + house.thread(0, 1), "1 45");
+        }
+    }
+
+    private static void runs(String e, int turn, int due) {
+        WardenHouse house = Trial.house("module m /a { a() = " + e + "; }");
+        Trial.due("run", Trial.run(house, 0, 0, 1, turn == 1), 0);
+        Trial.due("value", house.thread(0, 0) + " " + house.thread(0, 1), "1 " + due);
     }
 
     private static String three(WardenHouse house, int i) {

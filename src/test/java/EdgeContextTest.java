@@ -12,12 +12,14 @@ public final class EdgeContextTest {
         mostProducts();
         everyDomainInOneProduct();
         productsThatGo();
+        fourteenProductsReduced();
         limitsAndDomainsAgree();
         noContextWithoutNeed();
         allUnitsNeed();
         contextCalls();
         mayOfEachSort();
         mayOfNoRun();
+        mayTheLongestWay();
         mayCalls();
         Trial.end();
     }
@@ -201,6 +203,49 @@ public final class EdgeContextTest {
         guarded(text, "q() =", 0, 1, "{2} {3} {3 513}");
     }
 
+    // Section 5: "{ l } put to those of c": with 13 in c, the 14th is that which stays, as the one with l and c's DOMAINS has all of it.
+    private static void fourteenProductsReduced() {
+        StringBuilder privs = new StringBuilder();
+        for (int l = 0; l < 12; l++) {
+            privs.append("priv [r /p").append(l).append("] ");
+        }
+        String text = "grant /a { r /-; } grant /c { r /x; } module a /a { t(n, o) = " + privs + "(if n == 0 then able r /x else o.go(n - 1, o)); }"
+            + " module c /c { go(n, o) = new a.t(n, o); } module b /b { main() = let o = new c in o.go(1, o); }";
+        WardenHouse house = Trial.house(text);
+        int u = Trial.unitAt(house, text, "main() =");
+        Trial.due("run", Trial.run(house, u, 0, 100, true), 0);
+        // DOMAINS: a is 0, c 1, b 2. b; b and c; a, b and c; then 12 with LIMITS; c's go again puts 1 into each; then the LIMITS again.
+        StringBuilder due = new StringBuilder("{4} {6} {7}");
+        int[] products = new int[13];
+        products[0] = 7;
+        for (int l = 0; l < 12; l++) {
+            products[l + 1] = 1 | 1 << 8 + l;
+            due.append(" {").append(joined(products, l + 2)).append('}');
+        }
+        for (int l = 0; l < 12; l++) {
+            products[l + 1] |= 2;
+        }
+        due.append(" {").append(joined(products, 13)).append('}');
+        for (int l = 0; l < 12; l++) {
+            products[l + 1] = 1 | 1 << 8 + l;
+            if (l < 11) {
+                due.append(" {").append(joined(products, 13)).append('}');
+            }
+        }
+        Trial.due("contexts", Trial.contexts(house), due.toString());
+        Trial.due("value", house.thread(0, 1), 0);
+        Trial.due("run", Trial.run(house, u, 0, 100, false), 0);
+        Trial.due("value", house.thread(0, 1), 0);
+    }
+
+    private static String joined(int[] numbers, int n) {
+        StringBuilder all = new StringBuilder();
+        for (int i = 0; i < n; i++) {
+            all.append(i > 0 ? " " : "").append(numbers[i]);
+        }
+        return all.toString();
+    }
+
     // Sections 4 and 5: LIMIT, own DOMAIN and what is BELOW, each having it or not, and both ways telling the same.
     private static void limitsAndDomainsAgree() {
         for (int bits = 0; bits < 8; bits++) {
@@ -312,6 +357,22 @@ public final class EdgeContextTest {
         // ctx in a UNIT within is of that UNIT: it must be come to.
         may("a() = fun(v) { ctx }; b() = under none : 1;", "", "1 0 1 0");
         may("a() = priv ctx; b() = under none : 1;", "", "1 1 1 1");
+    }
+
+    // Section 6: yes goes from the last UNIT through all to the first, whose DOMAIN has it not, and no all the way once more.
+    private static void mayTheLongestWay() {
+        StringBuilder text = new StringBuilder("grant /a { r /x; } module m0 /b { a0(v) = none.a58(1); }");
+        for (int k = 1; k < 59; k++) {
+            text.append(k % 12 == 1 ? " module m" + (k / 12 + 1) + " /a {" : "").append(" a").append(k).append("(v) = none.a").append(k - 1).append("(1);").append(k % 12 == 0 ? " }" : "");
+        }
+        WardenHouse house = Trial.house(text + " start() = none.a58(1); }");
+        Trial.due("UNITS", house.count(0), 60);
+        Trial.asks(house, "r /x");
+        Trial.due("mays", Trial.mays(house), "2" + Trial.times(" 3", 58) + " 1");
+        // Without the one that leads back there is yes alone.
+        house = Trial.house(text.toString().replace("a0(v) = none.a58(1)", "a0(v) = none.a58()") + " start() = none.a58(1); }");
+        Trial.asks(house, "r /x");
+        Trial.due("mays", Trial.mays(house), "2" + Trial.times(" 1", 59));
     }
 
     // Promise 13: "NONE without it, or if nothing is ASKED yet".

@@ -6,6 +6,7 @@ public final class EdgeRightTest {
         coversByLength();
         coversByEachStep();
         kindsAreTheSame();
+        lettersAreToldApart();
         grantsCoverModules();
         domainsOfAllModules();
         domainsAreSetsOfGrants();
@@ -70,6 +71,43 @@ public final class EdgeRightTest {
         for (int i = 0; i < kinds.length; i++) {
             Trial.due("asks", Trial.asks(house, kinds[i] + " /x"), true);
             Trial.due("has of " + kinds[i], house.has(0, false) + " " + house.has(0, true), i == 0 ? "1 1" : "0 0");
+        }
+    }
+
+    // Section 1: a STEP or a KIND is the same if all its letters and digits are: each of the 36 told from each.
+    private static void lettersAreToldApart() {
+        String all = "abcdefghijklmnopqrstuvwxyz0123456789";
+        for (char c : all.toCharArray()) {
+            String kind = c <= '9' ? "k" + c : c + "k";
+            WardenHouse house = Trial.house("grant /- { r /" + c + "; r /m" + c + "; " + kind + " /x; } module m /m { }");
+            for (char d : all.toCharArray()) {
+                String asked = d <= '9' ? "k" + d : d + "k";
+                Trial.asks(house, "r /" + d);
+                Trial.due("/" + c + " covers /" + d, house.has(0, false), c == d ? 1 : 0);
+                Trial.asks(house, "r /m" + d);
+                Trial.due("/m" + c + " covers /m" + d, house.has(0, false), c == d ? 1 : 0);
+                Trial.asks(house, asked + " /x");
+                Trial.due(kind + " is " + asked, house.has(0, false), c == d ? 1 : 0);
+            }
+            house = Trial.house("grant /- { r /" + c + "m; k" + c + " /x; } module m /m { }");
+            for (char d : all.toCharArray()) {
+                Trial.asks(house, "r /" + d + "m");
+                Trial.due("/" + c + "m covers /" + d + "m", house.has(0, false), c == d ? 1 : 0);
+                Trial.asks(house, "r /" + d + "a");
+                Trial.due("/" + c + "m covers /" + d + "a", house.has(0, false), 0);
+                Trial.asks(house, "k" + d + " /x");
+                Trial.due("k" + c + " is k" + d, house.has(0, false), c == d ? 1 : 0);
+            }
+        }
+        // Two letters, each next to one of the other's: ab is not ba, nor b alone, nor aab.
+        WardenHouse house = Trial.house("grant /- { r /ab; } module m /m { }");
+        for (String step : new String[] {"ba", "b", "a", "aab", "abb", "a1", "bb", "cb", "aa", "ac", "abcdef"}) {
+            Trial.asks(house, "r /" + step);
+            Trial.due("/ab covers /" + step, house.has(0, false), 0);
+        }
+        for (String[] two : new String[][] {{"ba", "ca"}, {"aa", "ba"}, {"a0", "b0"}, {"za", "a9"}, {"aaaaaaaa", "baaaaaaa"}, {"aaaaaaab", "aaaaaaba"}}) {
+            Trial.fault(3, "module m /a { a(" + two[0] + ") = ^" + two[1] + "; }");
+            Trial.fault(3, "module m /a { a(" + two[1] + ") = ^" + two[0] + "; }");
         }
     }
 
