@@ -11,6 +11,7 @@ public final class EdgeThreadTest {
         leastNumberWithSeedZero();
         drawsOfEverySeed();
         seedThatBecomesZero();
+        waitsAndDraws();
         indexOfAnAsking();
         keptEvents();
         lastKeptEvent();
@@ -82,6 +83,10 @@ public final class EdgeThreadTest {
         Trial.due("twice", Trial.events(ran("{ spawn fun() { 5 }; out (wait 1 + wait 1) }", 0, false, 0)), "0:0:10");
         Trial.due("FAILURE twice", Trial.events(ran("{ spawn fun() { fail 5 }; try wait 1 catch e : out e; wait 1 }", 0, true, 0)), "1:2:5 0:0:5 0:2:5");
         Trial.due("handed on", Trial.events(ran("{ spawn fun() { fail 5 }; spawn fun() { wait 1 }; wait 2 }", 0, true, 0)), "1:2:5 2:2:5 0:2:5");
+        // What it waited for is taken once: behind the next turns there is nothing more of it.
+        Trial.due("a value once", Trial.events(ran("{ spawn fun() { 5 }; wait 1; out (out 7 + out 1) }", 0, false, 0)), "0:0:7 0:0:1 0:0:8");
+        Trial.due("a FAILURE once", Trial.events(ran("{ spawn fun() { fail 5 }; try wait 1 catch e : out e; out (out 7 + out 1) }", 0, true, 0)), "1:2:5 0:0:5 0:0:7 0:0:1 0:0:8");
+        Trial.due("its number once", Trial.events(ran("{ spawn fun() { 5 }; wait 1; out (spawn fun() { 6 } + 10); out wait 2 }", 0, true, 0)), "0:0:12 0:0:6");
         // Behind a wait for one that has ended it goes on at once.
         Trial.due("goes on", Trial.events(ran("{ spawn fun() { 5 }; wait 1; spawn fun() { out 6 }; out 7; wait 1; out 8; wait 2 }", 0, false, 0)), "0:0:7 0:0:8 2:0:6");
     }
@@ -178,43 +183,89 @@ public final class EdgeThreadTest {
         }
     }
 
-    // n threads are spawned, each with two outs; thread 0 has three: told by the words of ORDER alone.
+    // n threads are spawned, each with two outs; thread 0 has three.
     private static void drawn(int n, int seed) {
-        int[] left = new int[n + 1];
-        int threads = 1;
-        left[0] = n + 4;
+        String[] acts = new String[n + 1];
+        acts[0] = Trial.times("spawn ", n) + "out3 out2 out1 end";
         for (int t = 1; t <= n; t++) {
-            left[t] = 3;
+            acts[t] = "out2 out1 end";
         }
+        drawn(acts, seed);
+    }
+
+    // Section 3: "waits, or has ended": a wait for a thread that has ended draws nothing, one that waits does.
+    private static void waitsAndDraws() {
+        // Each waits for threads ahead of it, which are there by any order.
+        String[][] all = {
+            {"spawn spawn wait1 wait1 wait1 out3 wait1 out4 wait2 wait1 out5 end", "end", "out1 wait1 out2 end"},
+            {"spawn spawn spawn wait2 out9 wait1 out8 wait3 out7 end", "out4 out5 end", "wait1 out1 wait1 end", "wait1 wait2 wait1 out6 out6 end"},
+            {"spawn spawn out1 out2 end", "wait0 wait0 out3 out4 end", "wait0 wait1 out5 wait0 out6 end"},
+        };
+        for (String[] acts : all) {
+            for (int seed = 1; seed <= 60; seed++) {
+                drawn(acts, seed % 2 == 0 ? seed * 7919 : -seed * 104729);
+            }
+        }
+    }
+
+    // What the threads do, told by the words of ORDER alone; then by two runs of a text that does the same.
+    private static void drawn(String[] acts, int seed) {
+        String[][] todo = new String[acts.length][];
+        int[] waits = new int[acts.length];
+        for (int t = 0; t < acts.length; t++) {
+            todo[t] = acts[t].split(" ");
+            waits[t] = -1;
+        }
+        int[] done = new int[acts.length];
+        int threads = 1;
         StringBuilder all = new StringBuilder();
         int now = 0;
         int r = seed;
         while (now >= 0) {
-            left[now]--;
-            if (now == 0 && threads <= n) {
-                threads++;
-            } else if (left[now] > 0) {
-                all.append(all.length() > 0 ? " " : "").append(now).append(":0:").append(left[now]);
-            }
-            int able = 0;
-            for (int t = 0; t < threads; t++) {
-                able += left[t] > 0 ? 1 : 0;
-            }
-            now = -1;
-            if (able > 0) {
-                r = r * 1103515245 + 12345;
-                int skip = (r >>> 16) % able;
-                for (int t = 0; t < threads && now < 0; t++) {
-                    if (left[t] > 0 && skip-- == 0) {
-                        now = t;
-                    }
+            waits[now] = -1;
+            boolean goesOn = true;
+            while (goesOn) {
+                String act = todo[now][done[now]++];
+                goesOn = act.startsWith("wait") && hasEnded(todo, done, act.charAt(4) - '0');
+                waits[now] = act.startsWith("wait") && !goesOn ? act.charAt(4) - '0' : -1;
+                threads += act.equals("spawn") ? 1 : 0;
+                if (act.startsWith("out")) {
+                    all.append(all.length() > 0 ? " " : "").append(now).append(":0:").append(act.charAt(3));
                 }
             }
+            StringBuilder able = new StringBuilder();
+            for (int t = 0; t < threads; t++) {
+                able.append(!hasEnded(todo, done, t) && (waits[t] < 0 || hasEnded(todo, done, waits[t])) ? "" + t : "");
+            }
+            now = -1;
+            if (able.length() > 0) {
+                r = r * 1103515245 + 12345;
+                now = able.charAt((r >>> 16) % able.length()) - '0';
+            }
         }
+        String main = "{ " + textOf(acts, 0) + " }";
         for (int turn = 0; turn < 2; turn++) {
-            WardenHouse house = ran("{ " + Trial.times("spawn fun() { out 2; out 1; 0 }; ", n) + "out 3; out 2; out 1; 0 }", seed, turn == 1, 0);
-            Trial.due(n + " spawned with seed " + seed, Trial.events(house), all.toString());
+            Trial.due(main + " with seed " + seed, Trial.events(ran(main, seed, turn == 1, 0)), all.toString());
         }
+    }
+
+    private static boolean hasEnded(String[][] todo, int[] done, int t) {
+        return done[t] == todo[t].length;
+    }
+
+    // Thread 0 spawns the others in their order.
+    private static String textOf(String[] acts, int t) {
+        StringBuilder text = new StringBuilder();
+        int spawned = 0;
+        for (String act : acts[t].split(" ")) {
+            if (act.equals("spawn")) {
+                spawned++;
+                text.append("spawn fun() { ").append(textOf(acts, spawned)).append(" }; ");
+            } else {
+                text.append(act.equals("end") ? "0" : act.startsWith("out") ? "out " + act.charAt(3) + "; " : "wait " + act.charAt(4) + "; ");
+            }
+        }
+        return text.toString();
     }
 
     // Section 3: "the digits of its INT, 0 .. 999 (else 5)": no EVENT when it is 5; without zeros ahead.
