@@ -10,6 +10,7 @@ public final class EdgeFaultTest {
         endAtEachWord();
         noWordAtEachWord();
         wordThatNeverStandsThere();
+        atLeastAndAtMost();
         firstFaultCounts();
         oneAheadOfFourAheadOfOthers();
         nameTwice();
@@ -71,6 +72,92 @@ public final class EdgeFaultTest {
                 Trial.fault(1, joined(0, i) + "^then " + joined(i + 1, WORDS.length));
             }
         }
+    }
+
+    private static String within(String e) {
+        return "module m /a { field f; a(p, q) = " + e + "; }";
+    }
+
+    // Section 1: where the grammar says none, one, two, one at least, any number, or that something ends there.
+    private static void atLeastAndAtMost() {
+        // "a SUM, or two with < or == between".
+        Trial.noFault(within("p < q"));
+        Trial.fault(1, within("p < q ^< p"));
+        Trial.fault(1, within("p < q ^== p"));
+        Trial.fault(1, within("p == q ^< p"));
+        Trial.fault(1, within("p == q ^== p"));
+        Trial.noFault(within("(p < q) < (p == q)"));
+        Trial.fault(1, within("^< p"));
+        Trial.fault(1, within("p < ^"));
+        // "ROW: Es with ; between, one at least".
+        Trial.fault(1, within("{ ^}"));
+        Trial.fault(1, within("{ ^; p }"));
+        Trial.fault(1, within("{ p; ^}"));
+        Trial.fault(1, within("{ p; ^; p }"));
+        Trial.fault(1, within("fun() { ^}"));
+        Trial.fault(1, within("fun() { p; ^}"));
+        Trial.noFault(within("{ p }"));
+        Trial.noFault(within("{ { { p; q }; p }; q }"));
+        // "check KIND PLACE or able KIND PLACE, perhaps with [ E ] behind it": one, of one E, right behind it.
+        Trial.fault(1, within("check r /x [1] ^[2]"));
+        Trial.fault(1, within("able r /x [^]"));
+        Trial.fault(1, within("able r /x [1^, 2]"));
+        Trial.fault(1, within("able r /x [1^; 2]"));
+        Trial.fault(1, within("(able r /x) ^[1]"));
+        Trial.fault(1, within("p ^[1]"));
+        // "behind a READ may stand :=", and behind nothing else; "and the POSTFIX ends".
+        Trial.noFault(within("p.f := q.f := 1"));
+        Trial.noFault(within("p(1).f.g := 1"));
+        for (String no : new String[] {"p", "self", "(p.f)", "p.f()", "p()", "p.f(1).g(2)", "1", "none", "{ p.f }", "new m", "fun() { 1 }", "check r /x", "1 + p", "out p"}) {
+            Trial.fault(1, within(no + " ^:= 1"));
+        }
+        Trial.fault(1, within("p.f := 1 ^:= 2"));
+        Trial.fault(1, within("p.f := ^let x = 1 in x"));
+        Trial.fault(1, within("p.f := ^if 1 then 2 else 3"));
+        Trial.fault(1, within("p.f := ^try 1 catch e : 2"));
+        // let, if and try are Es, no PREFIXes: behind a sign or a word they stand in ( ) alone.
+        for (String e : new String[] {"let x = 1 in x", "if 1 then 2 else 3", "try 1 catch e : 2"}) {
+            for (String ahead : new String[] {"1 + ", "1 - ", "1 * ", "1 < ", "1 == ", "out ", "fail ", "spawn ", "wait ", "priv ", "priv [r /x] ", "under ", "under 1 : "}) {
+                Trial.fault(1, within(ahead + "^" + e));
+                Trial.noFault(within(ahead + "(" + e + ")" + (ahead.equals("under ") ? " : 1" : "")));
+            }
+        }
+        // PREFIXes are none of what an ATOM or a PRODUCT begins with behind another.
+        Trial.fault(1, within("p ^out 1"));
+        Trial.fault(1, within("p ^q"));
+        Trial.fault(1, within("1 ^1"));
+        Trial.fault(1, within("p.f ^priv 1"));
+        Trial.fault(1, within("^* p"));
+        Trial.fault(1, within("^- p"));
+        Trial.fault(1, within("p + ^+ q"));
+        Trial.fault(1, within("p - ^- q"));
+        // All else that may not be empty, and what may.
+        Trial.fault(1, within("(^)"));
+        Trial.fault(1, within("new ^; }"));
+        Trial.fault(1, within("check ^; }"));
+        Trial.fault(1, within("check r ^; }"));
+        Trial.fault(1, within("priv ^; }"));
+        Trial.fault(1, within("under 1 ^; }"));
+        Trial.fault(1, within("under 1 : ^; }"));
+        Trial.fault(1, within("p. ^; }"));
+        Trial.noFault(within("p()"));
+        Trial.noFault(within("p.f()"));
+        Trial.fault(1, "grant ^{ } module m /a { }");
+        Trial.fault(1, "module ^/a { }");
+        Trial.fault(1, "module m ^{ }");
+        Trial.fault(1, "module m /a : ^{ }");
+        Trial.fault(1, "module m /a ^");
+        Trial.fault(1, "module m /a { field ^; }");
+        Trial.fault(1, "module m /a { a ^= 1; }");
+        Trial.fault(1, "module m /a { a() ^1; }");
+        Trial.fault(1, "module m /a { a() = ^; }");
+        Trial.fault(1, "module m /a { a() = 1; ^; }");
+        Trial.fault(1, "module m /a { ^; }");
+        // fields, then METHODs; GRANTs, then modules.
+        Trial.fault(1, "module m /a { field f; a() = 1; ^field g; }");
+        Trial.fault(1, "module m /a { } ^grant /a { }");
+        Trial.fault(1, "module m /a { } ^field f;");
+        Trial.fault(1, "module m /a { } ^}");
     }
 
     // Section 1: "THE FAULT is the first one, word by word", not the gravest.

@@ -15,6 +15,7 @@ public final class EdgeRunTest {
         membersOfEachSort();
         numbersOfParameters();
         nearestAbove();
+        selfOfTheFirst();
         freshObjects();
         lastStep();
         mostSteps();
@@ -223,6 +224,21 @@ public final class EdgeRunTest {
             for (int i = 0; i < heads.length; i++) {
                 Trial.run(house, Trial.unitAt(house, all, heads[i]), 0, 10, false);
                 Trial.due(heads[i] + " of m" + m, Trial.thread(house, 0).replaceAll("( \\S+){2}$", ""), due[i]);
+            }
+        }
+    }
+
+    // Section 3: "self being a new object of its module": of the module in which the METHOD is, and of no other.
+    private static void selfOfTheFirst() {
+        String text = "module m /a { field f; a() = self.f; b() = self.g; c() = self.over(); over() = 1; } module n /a : m { field g; d() = self.g; e() = self.over(); over() = 2; }";
+        WardenHouse house = Trial.house(text);
+        String[] heads = {"a()", "b()", "c()", "d()", "e()"};
+        String[] due = {"1 0 1", "2 2 -1", "1 1 0", "1 0 1", "1 2 0"};
+        for (int i = 0; i < heads.length; i++) {
+            for (int turn = 0; turn < 2; turn++) {
+                Trial.due("run", Trial.run(house, Trial.unitAt(house, text, heads[i]), 0, 10, turn == 1), 0);
+                Trial.due(heads[i], house.thread(0, 0) + " " + house.thread(0, 1) + " " + house.thread(0, 2), due[i]);
+                Trial.due("one object", house.result(5), 1);
             }
         }
     }
