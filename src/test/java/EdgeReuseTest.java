@@ -152,19 +152,23 @@ public final class EdgeReuseTest {
     // What it is, promise 14: hundreds of runs of 4000 STEPS each, with near 2000 objects and FUNS, and EVENTS by far more than 200.
     private static void manyLongRuns() {
         // d(40) is 81 STEPS: 41 of d, 40 of priv, by which 40 FUNS are made and 40 INTS written; 49 of them, and 30 STEPS more.
-        String text = "grant /a { r /x; } module m /a { a() = { " + Trial.times("self.d(40); ", 49) + "self.d(40) };"
-            + " d(n) = if n == 0 then 0 else { fun() { n + self.d(n) }; out n; priv [r /x] able r /x; self.d(n - 1) }; }";
+        String text = "grant /a { r /x; } module n /b { field k; ask(o) = o.c(); } module m /a { a() = { " + Trial.times("self.d(40); ", 49) + "self.d(40) };"
+            + " d(n) = if n == 0 then 0 else { fun() { n + self.d(n) }; out n; priv [r /x] able r /x; self.d(n - 1) };"
+            + " b() = let x = 30 in let y = new n in { y.k := 4; out fun(z) { x + y.k + z }(5); out self.c(); y.ask(self) }; c() = able r /x; } ";
         for (int turn = 0; turn < 2; turn++) {
             WardenHouse house = Trial.house(text);
             String due = "2 4000 1 1975 42 1976 " + (turn == 0 ? "1975 0" : "0 1");
             for (int i = 0; i < 440; i++) {
-                Trial.run(house, 0, i, 4000, turn == 1);
+                Trial.run(house, 1, i, 4000, turn == 1);
                 if (i % 220 == 0) {
                     Trial.due("results of run " + i, Trial.results(house), due);
                 }
             }
             Trial.due("results of the last", Trial.results(house), due);
             Trial.due("its first and its last EVENT", house.event(0, 2) + " " + house.event(199, 2) + " " + house.event(200, 2), "40 1 -1");
+            // Another METHOD behind them all: objects, FUNS and frames are found as in the first run.
+            Trial.due("run", Trial.run(house, Trial.unitAt(house, text, "b() ="), 0, 100, turn == 1), 0);
+            Trial.due("events", Trial.events(house) + ", " + house.thread(0, 1) + " " + house.result(5) + " " + house.result(6), "0:0:39 0:0:1, 0 3 " + (turn == 0 ? 4 : 0));
         }
     }
 
