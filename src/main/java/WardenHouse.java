@@ -602,7 +602,7 @@ public final class WardenHouse {
             boolean good = true;
             patterns.add(0L);
             patterns.add(Right.NO_TAIL);
-            while (place < length && byteAt(place) == '/' && stepCharAt(place + 1)) {
+            while (count < TAPE_ROOM && byteAt(place) == '/' && stepCharAt(place + 1)) {
                 count++;
                 good = findStep() && good;
             }
